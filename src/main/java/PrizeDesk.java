@@ -22,6 +22,7 @@ public final class PrizeDesk {
     private static final int STAGES = 2;
     private static final int LONGLIST = 0;
     private static final int SHORTLIST = 1;
+    private static final int WINNER = 2;
     private static final int LISTS = 3;
 
     private static final int POINTS = 0;
@@ -173,12 +174,9 @@ public final class PrizeDesk {
         if (!isWithin(who, 0, JUDGES) || !isDay(day) || !isList(list) || !mayKnow(who, day, list)) {
             return NOT_TO_BE_KNOWN;
         }
-        if (list == LONGLIST) {
-            rankLonglist();
-        } else if (list == SHORTLIST) {
-            rankShortlist();
-        } else {
-            rankStage(1, ruleBook.number(Rules.VOTE));
+        rankList(Math.min(list, SHORTLIST));
+        if (list == WINNER) {
+            recount(winnerPoll, ruleBook.number(Rules.VOTE));
             ranking.cut(1);
         }
         return ranking.bookAt(i);
@@ -188,7 +186,8 @@ public final class PrizeDesk {
         if (!isStage(stage) || !isKind(kind)) {
             return NONE;
         }
-        rankStage(stage, kind);
+        rankList(stage);
+        recount(pollOf(stage), kind);
         return ranking.bookAt(i);
     }
 
@@ -196,10 +195,11 @@ public final class PrizeDesk {
         if (!isStage(stage) || !isKind(kind) || !shelf.has(b)) {
             return NONE;
         }
-        rankStage(stage, kind);
+        rankList(stage);
         if (!contains(ranking.asSet(), b)) {
             return NONE;
         }
+        recount(pollOf(stage), kind);
         return kind == PAIRS ? tally.valueOf(b) + SCORE_LIFT : tally.valueOf(b);
     }
 
@@ -207,7 +207,8 @@ public final class PrizeDesk {
         if (!isStage(stage)) {
             return NONE;
         }
-        rankStage(stage, PAIRS);
+        rankList(stage);
+        recount(pollOf(stage), PAIRS);
         return tally.ringBook(what);
     }
 
@@ -252,10 +253,10 @@ public final class PrizeDesk {
             case 2:
                 return Integer.bitCount(booksForThird());
             case 3:
-                rankLonglist();
+                rankList(LONGLIST);
                 return ranking.length();
             case 4:
-                rankShortlist();
+                rankList(SHORTLIST);
                 return ranking.length();
             case 5:
                 return tape.length();
@@ -315,19 +316,13 @@ public final class PrizeDesk {
         ranking.draw(candidates, ruleBook.number(Rules.LONGLIST_SIZE));
     }
 
-    private void rankShortlist() {
+    /** The list of which a stage chooses has the stage's number. */
+    private void rankList(int list) {
         rankLonglist();
-        recount(shortlistPoll, ruleBook.number(Rules.VOTE));
-        ranking.cut(ruleBook.number(Rules.SHORTLIST_SIZE));
-    }
-
-    private void rankStage(int stage, int kind) {
-        if (stage == 0) {
-            rankLonglist();
-        } else {
-            rankShortlist();
+        if (list == SHORTLIST) {
+            recount(shortlistPoll, ruleBook.number(Rules.VOTE));
+            ranking.cut(ruleBook.number(Rules.SHORTLIST_SIZE));
         }
-        recount(pollOf(stage), kind);
     }
 
     /** Orders the books that the ranking has by a poll. */
@@ -899,7 +894,7 @@ public final class PrizeDesk {
         }
 
         boolean isCounting(int j) {
-            return isJudge(j) && days[j] != NONE && days[j] <= lastDay;
+            return j >= 0 && j < JUDGES && days[j] != NONE && days[j] <= lastDay;
         }
 
         int ballotsThatCount() {
@@ -1052,7 +1047,7 @@ public final class PrizeDesk {
         }
 
         private int placeOf(int j, int b) {
-            return isJudge(j) && isBookNumber(b) ? places[j * BOOKS + b] : OFF;
+            return j >= 0 && j < JUDGES && b >= 0 && b < BOOKS ? places[j * BOOKS + b] : OFF;
         }
 
         void valueByPoints() {
@@ -1154,9 +1149,10 @@ public final class PrizeDesk {
             int first = NONE;
             int firstPlace = OFF;
             for (int b = 0; b < BOOKS; b++) {
-                if (contains(left, b) && placeOf(j, b) < firstPlace) {
+                int place = contains(left, b) ? placeOf(j, b) : OFF;
+                if (place < firstPlace) {
                     first = b;
-                    firstPlace = placeOf(j, b);
+                    firstPlace = place;
                 }
             }
             return first;

@@ -221,6 +221,7 @@ public final class PromiseTest {
         due("c2", tell(x, "c2"), 501);
         due("c1000", tell(x, "c1000"), 501);
         due("any number", tell(x, "p9999;q0;f9999;t0000;b9999;d9999"), 0);
+        due("any other number", tell(x, "p0;q9999;f0;t9999;b0;d0"), 0);
         due("the first from the left", tell(x, "p1;r9;x"), 504);
         due("a wrong one that a later takes the place of", tell(x, "r9;r1"), 501);
         put(x, new int[80]);
