@@ -769,9 +769,7 @@ public final class PrizeDesk {
         int sumOn(int b) {
             int sum = 0;
             for (int j = 0; j < JUDGES; j++) {
-                if (hasMark(j, b)) {
-                    sum += markOf(j, b);
-                }
+                sum += Math.max(0, markOf(j, b));
             }
             return sum;
         }
@@ -824,17 +822,21 @@ public final class PrizeDesk {
          * some judge of it has. By the theorem of the least cut no load is needed but the greatest such share.
          */
         int leastLoad(int books, int readers) {
+            int size = 0;
             for (int b = 0; b < BOOKS; b++) {
-                freeJudges[b] = freeJudgesOf(b);
-                if (contains(books, b) && Integer.bitCount(freeJudges[b]) < readers) {
-                    return NONE;
+                if (contains(books, b)) {
+                    freeJudges[size] = freeJudgesOf(b);
+                    if (Integer.bitCount(freeJudges[size]) < readers) {
+                        return NONE;
+                    }
+                    size++;
                 }
             }
             int least = 0;
             for (int group = 1; group < 1 << JUDGES; group++) {
                 int members = Integer.bitCount(group);
                 if (members > 0) {
-                    least = Math.max(least, (readingsLeftTo(group, books, readers) + members - 1) / members);
+                    least = Math.max(least, (readingsLeftTo(group, size, readers) + members - 1) / members);
                 }
             }
             return least;
@@ -850,11 +852,12 @@ public final class PrizeDesk {
             return free;
         }
 
-        private int readingsLeftTo(int group, int books, int readers) {
+        private int readingsLeftTo(int group, int size, int readers) {
             int left = 0;
-            for (int b = 0; b < BOOKS; b++) {
-                if (contains(books, b)) {
-                    left += Math.max(0, readers - Integer.bitCount(freeJudges[b] & ~group));
+            for (int i = 0; i < size && i < BOOKS; i++) {
+                int others = Integer.bitCount(freeJudges[i] & ~group);
+                if (others < readers) {
+                    left += readers - others;
                 }
             }
             return left;
@@ -864,13 +867,11 @@ public final class PrizeDesk {
     /** The ballots of one stage, as they were told. */
     private static final class Poll {
         private final int[] days;
-        private final int[] sizes;
         private final int[] books;
         private int lastDay;
 
         Poll() {
             days = new int[JUDGES];
-            sizes = new int[JUDGES];
             books = new int[JUDGES * BALLOT_BOOKS];
             lastDay = LAST_DAY;
             for (int j = 0; j < JUDGES; j++) {
@@ -887,7 +888,6 @@ public final class PrizeDesk {
                 return;
             }
             days[j] = day;
-            sizes[j] = Math.min(tape.length(), BALLOT_BOOKS);
             for (int i = 0; i < BALLOT_BOOKS; i++) {
                 books[j * BALLOT_BOOKS + i] = tape.byteAt(i);
             }
@@ -907,9 +907,9 @@ public final class PrizeDesk {
             return found;
         }
 
-        /** The i-th book of a ballot that counts. */
+        /** The i-th book of a ballot that counts; NONE behind its last one, as the tape had it. */
         int bookAt(int j, int i) {
-            return isCounting(j) && isWithin(i, 0, sizes[j] - 1) ? books[j * BALLOT_BOOKS + i] : NONE;
+            return isCounting(j) && isWithin(i, 0, BALLOT_BOOKS - 1) ? books[j * BALLOT_BOOKS + i] : NONE;
         }
     }
 
@@ -980,6 +980,7 @@ public final class PrizeDesk {
         /** More than OFF, so that no tie outweighs a difference in values. */
         private static final int TIE_SPAN = 32;
 
+        private final int[] rows;
         private final int[] places;
         private final int[] ties;
         private final int[] values;
@@ -989,6 +990,7 @@ public final class PrizeDesk {
         private int list;
 
         Tally() {
+            rows = new int[JUDGES * BALLOT_BOOKS];
             places = new int[JUDGES * BOOKS];
             ties = new int[BOOKS];
             values = new int[BOOKS];
@@ -1004,7 +1006,7 @@ public final class PrizeDesk {
                 hearJudge(j, poll, panel);
             }
             for (int b = 0; b < BOOKS; b++) {
-                ties[b] = tiesByChair ? OFF - placeOf(CHAIR, b) : 0;
+                ties[b] = tiesByChair ? OFF - places[CHAIR * BOOKS + b] : 0;
             }
         }
 
@@ -1019,8 +1021,10 @@ public final class PrizeDesk {
             int next = 0;
             for (int i = 0; i < BALLOT_BOOKS; i++) {
                 int b = poll.bookAt(j, i);
+                rows[j * BALLOT_BOOKS + i] = NONE;
                 if (isListed(b) && !panel.isBarred(j, b)) {
                     places[j * BOOKS + b] = next;
+                    rows[j * BALLOT_BOOKS + next] = b;
                     next++;
                 }
             }
@@ -1046,17 +1050,16 @@ public final class PrizeDesk {
             return isBookNumber(b) && contains(list, b);
         }
 
-        private int placeOf(int j, int b) {
-            return j >= 0 && j < JUDGES && b >= 0 && b < BOOKS ? places[j * BOOKS + b] : OFF;
-        }
-
         void valueByPoints() {
             int most = Integer.bitCount(list);
             for (int b = 0; b < BOOKS; b++) {
                 values[b] = 0;
-                for (int j = 0; j < JUDGES; j++) {
-                    if (placeOf(j, b) != OFF) {
-                        values[b] += most - placeOf(j, b);
+            }
+            for (int j = 0; j < JUDGES; j++) {
+                for (int i = 0; i < BALLOT_BOOKS; i++) {
+                    int b = rows[j * BALLOT_BOOKS + i];
+                    if (isBookNumber(b)) {
+                        values[b] += most - i;
                     }
                 }
             }
@@ -1080,10 +1083,15 @@ public final class PrizeDesk {
 
         private int leadOf(int a, int b) {
             int lead = 0;
+            if (!isBookNumber(a) || !isBookNumber(b)) {
+                return lead;
+            }
             for (int j = 0; j < JUDGES; j++) {
-                if (placeOf(j, a) < placeOf(j, b)) {
+                int placeOfA = places[j * BOOKS + a];
+                int placeOfB = places[j * BOOKS + b];
+                if (placeOfA < placeOfB) {
                     lead++;
-                } else if (placeOf(j, b) < placeOf(j, a)) {
+                } else if (placeOfB < placeOfA) {
                     lead--;
                 }
             }
@@ -1138,24 +1146,21 @@ public final class PrizeDesk {
                 held[b] = 0;
             }
             for (int j = 0; j < JUDGES; j++) {
-                int first = firstOn(j, left);
-                if (isBookNumber(first)) {
-                    held[first]++;
+                int b = firstOn(j, left);
+                if (isBookNumber(b)) {
+                    held[b]++;
                 }
             }
         }
 
         private int firstOn(int j, int left) {
-            int first = NONE;
-            int firstPlace = OFF;
-            for (int b = 0; b < BOOKS; b++) {
-                int place = contains(left, b) ? placeOf(j, b) : OFF;
-                if (place < firstPlace) {
-                    first = b;
-                    firstPlace = place;
+            for (int i = 0; i < BALLOT_BOOKS && isJudge(j); i++) {
+                int b = rows[j * BALLOT_BOOKS + i];
+                if (isBookNumber(b) && contains(left, b)) {
+                    return b;
                 }
             }
-            return first;
+            return NONE;
         }
 
         private int lastOf(int left) {
