@@ -502,6 +502,12 @@ public final class PromiseTest {
         x.mark(1, 2, 7);
         x.mark(2, 2, 7);
         due("alike", x.third(0), NONE);
+        x.mark(1, 2, 0);
+        x.mark(2, 2, 0);
+        due("both 0", x.third(0), NONE);
+        x.mark(1, 2, 100);
+        x.mark(2, 2, 100);
+        due("both 100", x.third(0), NONE);
     }
 
     private static void longlist() {
