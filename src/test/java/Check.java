@@ -7,6 +7,15 @@ final class Check {
         where = place;
     }
 
+    /** What follows tests this sentence of the document, or this part of one; it must stand there just so, once. */
+    void sentence(String quote) {
+        where = quote;
+        int at = Document.text().indexOf(quote);
+        if (at < 0 || at != Document.text().lastIndexOf(quote)) {
+            fail("the document does not say so, or more than once");
+        }
+    }
+
     void due(String call, long got, long want) {
         if (got != want) {
             wrong++;

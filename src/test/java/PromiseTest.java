@@ -49,61 +49,12 @@ public final class PromiseTest {
         CHECK.due(call, got, want);
     }
 
-    private static void put(PrizeDesk x, int[] bytes) {
-        for (int from = 0; from == 0 || from < bytes.length; from += 20) {
-            int[] words = new int[5];
-            for (int i = 0; i < 20 && from + i < bytes.length; i++) {
-                words[i / 4] |= bytes[from + i] << 24 - i % 4 * 8;
-            }
-            x.feed(words[0], words[1], words[2], words[3], words[4]);
-        }
-    }
-
-    private static int tell(PrizeDesk x, String text) {
-        int[] bytes = new int[text.length()];
-        for (int i = 0; i < bytes.length; i++) {
-            bytes[i] = text.charAt(i);
-        }
-        put(x, bytes);
-        return x.rules(bytes.length);
-    }
-
-    private static boolean vote(PrizeDesk x, int j, int stage, int... books) {
-        put(x, books);
-        return x.ballot(j, stage, 10, books.length);
-    }
-
-    /** Books of different publishers as far as there are any, all of them in. */
-    private static PrizeDesk deskWith(int books) {
-        PrizeDesk x = new PrizeDesk();
-        for (int b = 0; b < books; b++) {
-            x.book(b % 8, 100, 10);
-        }
-        return x;
-    }
-
-    /** As above, and all on the longlist if it is long enough. */
-    private static PrizeDesk deskWithMarked(int books) {
-        PrizeDesk x = deskWith(books);
-        for (int b = 0; b < books; b++) {
-            x.mark(6, b, 50);
-        }
-        return x;
-    }
-
     private static void order(PrizeDesk x, int stage, int kind, int... books) {
-        for (int i = 0; i < books.length; i++) {
-            due("counted(" + stage + ", " + kind + ", " + i + ")", x.counted(stage, kind, i), books[i]);
-        }
-        due("counted behind the end", x.counted(stage, kind, books.length), NONE);
+        Desks.order(CHECK, x, stage, kind, books);
     }
 
     private static void longlistIs(PrizeDesk x, int... books) {
-        due("count(3)", x.count(3), books.length);
-        for (int i = 0; i < books.length; i++) {
-            due("told(0, 0, 0, " + i + ")", x.told(0, 0, 0, i), books[i]);
-        }
-        due("told behind the end", x.told(0, 0, 0, books.length), NONE);
+        Desks.list(CHECK, x, 0, books);
     }
 
     private static void newObject() {
@@ -132,7 +83,7 @@ public final class PromiseTest {
 
     private static void feed() {
         CHECK.in("promise 2");
-        PrizeDesk x = deskWith(24);
+        PrizeDesk x = Desks.with(24);
         due("first", x.feed(0x01020304, 0x05060708, 0x090A0B0C, 0, 0), 20);
         due("second", x.feed(0, 0, 0, 0, 0), 40);
         due("third", x.feed(-1, -1, -1, -1, -1), 60);
@@ -144,12 +95,12 @@ public final class PromiseTest {
         for (int b = 1; b <= 12; b++) {
             x.mark(1, b, 50);
         }
-        tell(x, "l12;b3");
+        Desks.tell(x, "l12;b3");
         due("n - i of the first", x.worth(0, 0, 1), 12);
         due("n - i of the last", x.worth(0, 0, 12), 1);
         x.feed(0xFF000000, 0, 0, 0, 0);
         due("a high byte is no letter", x.rules(1), 100);
-        put(x, "p1;q2;f3;t4;b5;d6;p7;q8;f9".chars().toArray());
+        Desks.put(x, "p1;q2;f3;t4;b5;d6;p7;q8;f9");
         due("two feeds", x.count(5), 40);
         due("a text over two feeds", x.rules(26), 0);
         due("p", x.rule('p'), 7);
@@ -159,13 +110,13 @@ public final class PromiseTest {
     private static void rules() {
         CHECK.in("promise 3");
         PrizeDesk x = new PrizeDesk();
-        due("all letters", tell(x, "p1;q2;f3;t4;b5;r3;d7;l8;s9;v2;c1"), 0);
+        due("all letters", Desks.tell(x, "p1;q2;f3;t4;b5;r3;d7;l8;s9;v2;c1"), 0);
         String letters = "pqftbrdlsvc";
         int[] numbers = {1, 2, 3, 4, 5, 3, 7, 8, 9, 2, 1};
         for (int i = 0; i < numbers.length; i++) {
             due("rule(" + letters.charAt(i) + ")", x.rule(letters.charAt(i)), numbers[i]);
         }
-        due("the later one counts", tell(x, "p9999;p0008"), 0);
+        due("the later one counts", Desks.tell(x, "p9999;p0008"), 0);
         due("p", x.rule('p'), 8);
         due("not told: as at first", x.rule('q'), 900);
         due("v as at first", x.rule('v'), 0);
@@ -181,7 +132,7 @@ public final class PromiseTest {
         due("an empty text", x.rules(0), 100);
         due("empty then", x.count(5), 0);
         due("rules stay", x.rule('p'), 9);
-        due("a fault", tell(x, "p1;q2;r4"), 507);
+        due("a fault", Desks.tell(x, "p1;q2;r4"), 507);
         due("nothing of it", x.rule('p'), 9);
         due("nor this", x.rule('q'), 900);
         due("the tape is empty", x.count(5), 0);
@@ -190,48 +141,48 @@ public final class PromiseTest {
     private static void faults() {
         CHECK.in("promise 3, faults");
         PrizeDesk x = new PrizeDesk();
-        due("another letter", tell(x, "x1"), 100);
-        due("a great letter", tell(x, "P1"), 100);
-        due("a blank", tell(x, " p1"), 100);
-        due("end behind ;", tell(x, "p1;"), 103);
-        due("; behind ;", tell(x, "p1;;q1"), 103);
-        due("no digit at the end", tell(x, "p"), 201);
-        due("no digit", tell(x, "p;"), 201);
-        due("no digit later", tell(x, "p1;qq"), 204);
-        due("minus", tell(x, "p-1"), 201);
-        due("fifth digit", tell(x, "p12345"), 305);
-        due("fifth digit ahead of the number", tell(x, "r99999"), 305);
-        due("fifth digit, noughts", tell(x, "p00001"), 305);
-        due("behind a clause", tell(x, "p1q2"), 402);
-        due("blank behind", tell(x, "p1 "), 402);
-        due("comma behind", tell(x, "p12,q1"), 403);
-        due("sign below 0", tell(x, "p1/"), 402);
-        due("sign above 9", tell(x, "p1:"), 402);
-        due("number ahead of what is behind", tell(x, "r4x"), 501);
-        due("r0", tell(x, "r0"), 501);
-        due("r4", tell(x, "r4"), 501);
-        due("r1", tell(x, "r1"), 0);
-        due("l0", tell(x, "l0"), 501);
-        due("l13", tell(x, "l13"), 501);
-        due("l12", tell(x, "l12"), 0);
-        due("s0", tell(x, "s0"), 501);
-        due("s13", tell(x, "s13"), 501);
-        due("s0012", tell(x, "s0012"), 0);
-        due("v3", tell(x, "v3"), 501);
-        due("c2", tell(x, "c2"), 501);
-        due("c1000", tell(x, "c1000"), 501);
-        due("any number", tell(x, "p9999;q0;f9999;t0000;b9999;d9999"), 0);
-        due("any other number", tell(x, "p0;q9999;f0;t9999;b0;d0"), 0);
-        due("the first from the left", tell(x, "p1;r9;x"), 504);
-        due("a wrong one that a later takes the place of", tell(x, "r9;r1"), 501);
-        put(x, new int[80]);
+        due("another letter", Desks.tell(x, "x1"), 100);
+        due("a great letter", Desks.tell(x, "P1"), 100);
+        due("a blank", Desks.tell(x, " p1"), 100);
+        due("end behind ;", Desks.tell(x, "p1;"), 103);
+        due("; behind ;", Desks.tell(x, "p1;;q1"), 103);
+        due("no digit at the end", Desks.tell(x, "p"), 201);
+        due("no digit", Desks.tell(x, "p;"), 201);
+        due("no digit later", Desks.tell(x, "p1;qq"), 204);
+        due("minus", Desks.tell(x, "p-1"), 201);
+        due("fifth digit", Desks.tell(x, "p12345"), 305);
+        due("fifth digit ahead of the number", Desks.tell(x, "r99999"), 305);
+        due("fifth digit, noughts", Desks.tell(x, "p00001"), 305);
+        due("behind a clause", Desks.tell(x, "p1q2"), 402);
+        due("blank behind", Desks.tell(x, "p1 "), 402);
+        due("comma behind", Desks.tell(x, "p12,q1"), 403);
+        due("sign below 0", Desks.tell(x, "p1/"), 402);
+        due("sign above 9", Desks.tell(x, "p1:"), 402);
+        due("number ahead of what is behind", Desks.tell(x, "r4x"), 501);
+        due("r0", Desks.tell(x, "r0"), 501);
+        due("r4", Desks.tell(x, "r4"), 501);
+        due("r1", Desks.tell(x, "r1"), 0);
+        due("l0", Desks.tell(x, "l0"), 501);
+        due("l13", Desks.tell(x, "l13"), 501);
+        due("l12", Desks.tell(x, "l12"), 0);
+        due("s0", Desks.tell(x, "s0"), 501);
+        due("s13", Desks.tell(x, "s13"), 501);
+        due("s0012", Desks.tell(x, "s0012"), 0);
+        due("v3", Desks.tell(x, "v3"), 501);
+        due("c2", Desks.tell(x, "c2"), 501);
+        due("c1000", Desks.tell(x, "c1000"), 501);
+        due("any number", Desks.tell(x, "p9999;q0;f9999;t0000;b9999;d9999"), 0);
+        due("any other number", Desks.tell(x, "p0;q9999;f0;t9999;b0;d0"), 0);
+        due("the first from the left", Desks.tell(x, "p1;r9;x"), 504);
+        due("a wrong one that a later takes the place of", Desks.tell(x, "r9;r1"), 501);
+        Desks.put(x, new int[80]);
         due("a byte 0", x.rules(80), 100);
     }
 
     private static void rule() {
         CHECK.in("promise 4");
         PrizeDesk x = new PrizeDesk();
-        tell(x, "p77");
+        Desks.tell(x, "p77");
         due("p", x.rule(112), 77);
         due("P", x.rule(80), NONE);
         due("a", x.rule('a'), NONE);
@@ -282,7 +233,7 @@ public final class PromiseTest {
         x.book(5, 10, 1);
         due("too thin", x.call(5), true);
         due("called in, but too thin", x.look(5, 0), 0);
-        tell(x, "b0");
+        Desks.tell(x, "b0");
         due("just those called in", x.count(1), 2);
     }
 
@@ -310,7 +261,7 @@ public final class PromiseTest {
 
     private static void kin() {
         CHECK.in("promise 8");
-        PrizeDesk x = deskWith(2);
+        PrizeDesk x = Desks.with(2);
         x.mark(3, 0, 40);
         x.mark(3, 1, 60);
         x.mark(4, 0, 50);
@@ -364,13 +315,13 @@ public final class PromiseTest {
 
     private static void load() {
         CHECK.in("promise 10");
-        PrizeDesk x = deskWith(7);
+        PrizeDesk x = Desks.with(7);
         due("14 readings, 7 judges", x.load(), 2);
         x.book(7, 100, 1);
         due("16 readings", x.load(), 3);
-        tell(x, "r3");
+        Desks.tell(x, "r3");
         due("24 readings", x.load(), 4);
-        tell(x, "r1");
+        Desks.tell(x, "r1");
         due("8 readings", x.load(), 2);
         x.withdraw(7);
         due("7 readings", x.load(), 1);
@@ -379,20 +330,20 @@ public final class PromiseTest {
             x.kin(j, 1);
         }
         due("two that just one may read", x.load(), 2);
-        tell(x, "r2");
+        Desks.tell(x, "r2");
         due("not two for it", x.load(), NONE);
         x.withdraw(0);
         due("nor for the other", x.load(), NONE);
         x.withdraw(1);
         due("ten readings of five", x.load(), 2);
-        tell(x, "p2000");
+        Desks.tell(x, "p2000");
         due("no book is in", x.load(), 0);
     }
 
     /** Two books for judges 0 to 2, four for 0 to 3: 12 readings by four, not three each as 3 takes four at most. */
     private static void loadMovesReaders() {
         CHECK.in("promise 10, moving");
-        PrizeDesk x = deskWith(6);
+        PrizeDesk x = Desks.with(6);
         for (int b = 0; b < 6; b++) {
             for (int j = 4; j < 7; j++) {
                 x.kin(j, b);
@@ -416,7 +367,7 @@ public final class PromiseTest {
 
     private static void mark() {
         CHECK.in("promise 11");
-        PrizeDesk x = deskWith(2);
+        PrizeDesk x = Desks.with(2);
         due("0", x.mark(0, 0, 0), true);
         due("100", x.mark(6, 1, 100), true);
         due("-1", x.mark(0, 1, -1), false);
@@ -439,7 +390,7 @@ public final class PromiseTest {
 
     private static void met() {
         CHECK.in("promise 12");
-        PrizeDesk x = deskWith(6);
+        PrizeDesk x = Desks.with(6);
         x.mark(0, 0, 10);
         x.mark(1, 0, 11);
         due("one less", x.met(0, 1, 1), -1);
@@ -476,7 +427,7 @@ public final class PromiseTest {
 
     private static void third() {
         CHECK.in("promise 13");
-        PrizeDesk x = deskWith(5);
+        PrizeDesk x = Desks.with(5);
         x.mark(0, 1, 10);
         x.mark(1, 1, 40);
         due("30 apart is not more", x.third(0), NONE);
@@ -493,9 +444,9 @@ public final class PromiseTest {
         due("how many", x.count(2), 2);
         x.mark(4, 1, 20);
         due("a third told it", x.third(0), 4);
-        tell(x, "d100");
+        Desks.tell(x, "d100");
         due("not more than 100", x.third(0), NONE);
-        tell(x, "d0");
+        Desks.tell(x, "d0");
         due("4 again", x.third(0), 4);
         x.withdraw(4);
         due("not in", x.third(0), NONE);
@@ -512,7 +463,7 @@ public final class PromiseTest {
 
     private static void longlist() {
         CHECK.in("the longlist");
-        PrizeDesk x = deskWith(8);
+        PrizeDesk x = Desks.with(8);
         x.mark(0, 0, 66);
         x.mark(0, 1, 66);
         x.mark(1, 1, 67);
@@ -535,9 +486,9 @@ public final class PromiseTest {
         longlistIs(x, 6, 0, 1, 2, 3, 5);
         x.mark(0, 4, 1);
         longlistIs(x, 6, 0, 1, 2, 3, 4);
-        tell(x, "l1");
+        Desks.tell(x, "l1");
         longlistIs(x, 6);
-        tell(x, "l12");
+        Desks.tell(x, "l12");
         longlistIs(x, 6, 0, 1, 2, 3, 4, 5);
         x.kin(0, 6);
         longlistIs(x, 0, 1, 2, 3, 4, 5);
@@ -545,8 +496,8 @@ public final class PromiseTest {
 
     private static void ballot() {
         CHECK.in("promise 14");
-        PrizeDesk x = deskWithMarked(6);
-        put(x, new int[] {0, 1, 2, 3, 4, 5});
+        PrizeDesk x = Desks.withMarked(6);
+        Desks.put(x, new int[] {0, 1, 2, 3, 4, 5});
         due("judge -1", x.ballot(-1, 0, 0, 1), false);
         due("judge 7", x.ballot(7, 0, 0, 1), false);
         due("stage -1", x.ballot(0, -1, 0, 1), false);
@@ -563,35 +514,35 @@ public final class PromiseTest {
         due("one that counts", x.count(10), 1);
         due("an empty one counts, too", x.count(11), 1);
         order(x, 0, 0, 0, 1, 2, 3, 4, 5);
-        due("one twice", vote(x, 0, 0, 5, 4, 5), false);
+        due("one twice", Desks.vote(x, 0, 0, 5, 4, 5), false);
         due("the tape is gone by that", x.count(5), 0);
-        due("no such book", vote(x, 0, 0, 5, 6), false);
+        due("no such book", Desks.vote(x, 0, 0, 5, 6), false);
         due("the tape is gone by that, too", x.count(5), 0);
-        due("a high byte", vote(x, 0, 0, 255), false);
+        due("a high byte", Desks.vote(x, 0, 0, 255), false);
         due("the former stays", x.worth(0, 0, 0), 6);
-        due("anew", vote(x, 0, 0, 5, 4), true);
+        due("anew", Desks.vote(x, 0, 0, 5, 4), true);
         due("in its place", x.worth(0, 0, 0), 0);
         due("first of six", x.worth(0, 0, 5), 6);
-        put(x, new int[] {3, 3, 3});
+        Desks.put(x, new int[] {3, 3, 3});
         due("just the first", x.ballot(0, 0, 1, 1), true);
         due("the rest is gone, too", x.count(5), 0);
-        put(x, new int[] {3});
+        Desks.put(x, new int[] {3});
         due("empty with a tape", x.ballot(0, 0, 1, 0), true);
         due("the tape is empty then", x.count(5), 0);
         due("the empty one took its place", x.worth(0, 0, 3), 0);
         x.withdraw(2);
-        due("withdrawn ones may stand on it", vote(x, 0, 0, 2, 1), true);
+        due("withdrawn ones may stand on it", Desks.vote(x, 0, 0, 2, 1), true);
         due("first of five", x.worth(0, 0, 1), 5);
     }
 
     private static void lateBallots() {
         CHECK.in("promise 14, late");
-        PrizeDesk x = deskWithMarked(3);
+        PrizeDesk x = Desks.withMarked(3);
         x.close(0, 10);
-        put(x, new int[] {2});
+        Desks.put(x, new int[] {2});
         x.ballot(3, 0, 10, 1);
         due("on the day", x.worth(0, 0, 2), 3);
-        put(x, new int[] {1});
+        Desks.put(x, new int[] {1});
         due("late", x.ballot(3, 0, 11, 1), true);
         due("does not count", x.worth(0, 0, 1), 0);
         due("nor does the former", x.worth(0, 0, 2), 0);
@@ -603,11 +554,11 @@ public final class PromiseTest {
 
     private static void close() {
         CHECK.in("promise 15");
-        PrizeDesk x = deskWithMarked(3);
-        put(x, new int[] {1});
+        PrizeDesk x = Desks.withMarked(3);
+        Desks.put(x, new int[] {1});
         x.ballot(0, 0, 400, 1);
         due("400 at first", x.count(10), 1);
-        put(x, new int[] {1});
+        Desks.put(x, new int[] {1});
         x.ballot(0, 1, 0, 1);
         due("stage -1", x.close(-1, 5), false);
         due("stage 2", x.close(2, 5), false);
@@ -624,7 +575,7 @@ public final class PromiseTest {
 
     private static void telling() {
         CHECK.in("promise 16");
-        PrizeDesk x = deskWithMarked(3);
+        PrizeDesk x = Desks.withMarked(3);
         due("list -1", x.telling(-1, 5), false);
         due("list 3", x.telling(3, 5), false);
         due("day -1", x.telling(0, -1), false);
@@ -644,7 +595,7 @@ public final class PromiseTest {
 
     private static void told() {
         CHECK.in("promise 17");
-        PrizeDesk x = deskWithMarked(4);
+        PrizeDesk x = Desks.withMarked(4);
         due("the chair at any time", x.told(0, 0, 1, 2), 2);
         due("the winner, too", x.told(0, 0, 2, 0), 0);
         due("just one winner", x.told(0, 0, 2, 1), NONE);
@@ -672,11 +623,11 @@ public final class PromiseTest {
 
     private static void points() {
         CHECK.in("promise 18, points");
-        PrizeDesk x = deskWithMarked(4);
+        PrizeDesk x = Desks.withMarked(4);
         order(x, 0, 0, 0, 1, 2, 3);
-        vote(x, 1, 0, 3, 2);
-        vote(x, 2, 0, 2, 3, 1);
-        vote(x, 3, 0, 1);
+        Desks.vote(x, 1, 0, 3, 2);
+        Desks.vote(x, 2, 0, 2, 3, 1);
+        Desks.vote(x, 3, 0, 1);
         order(x, 0, 0, 2, 3, 1, 0);
         due("points of 2: 3 + 4", x.worth(0, 0, 2), 7);
         due("points of 3: 4 + 3", x.worth(0, 0, 3), 7);
@@ -687,14 +638,14 @@ public final class PromiseTest {
         due("stage 2", x.counted(2, 0, 0), NONE);
         due("kind -1", x.counted(0, -1, 0), NONE);
         due("kind 3", x.counted(0, 3, 0), NONE);
-        tell(x, "v2");
+        Desks.tell(x, "v2");
         due("whatever the rules say", x.counted(0, 0, 0), 2);
     }
 
     private static void passedOver() {
         CHECK.in("promise 18, passed over");
-        PrizeDesk x = deskWithMarked(4);
-        vote(x, 1, 0, 3, 2, 1, 0);
+        PrizeDesk x = Desks.withMarked(4);
+        Desks.vote(x, 1, 0, 3, 2, 1, 0);
         x.kin(1, 3);
         due("barred: no points", x.worth(0, 0, 3), 0);
         due("the next is first", x.worth(0, 0, 2), 4);
@@ -711,58 +662,58 @@ public final class PromiseTest {
 
     private static void pairs() {
         CHECK.in("promise 18, pairs");
-        PrizeDesk x = deskWithMarked(4);
-        vote(x, 0, 0, 1, 2);
-        vote(x, 1, 0, 1, 3);
-        vote(x, 2, 0, 2, 1);
+        PrizeDesk x = Desks.withMarked(4);
+        Desks.vote(x, 0, 0, 1, 2);
+        Desks.vote(x, 1, 0, 1, 3);
+        Desks.vote(x, 2, 0, 2, 1);
         due("1 beats all", x.worth(0, 1, 1), 1003);
         due("2 beats 0, 3 and loses to 1", x.worth(0, 1, 2), 1001);
         due("3 beats 0", x.worth(0, 1, 3), 999);
         due("0 beats none", x.worth(0, 1, 0), 997);
         order(x, 0, 1, 1, 2, 3, 0);
-        vote(x, 3, 0, 3, 0);
+        Desks.vote(x, 3, 0, 3, 0);
         due("2 and 3 are even", x.worth(0, 1, 2), 1000);
         due("3 with 2 even", x.worth(0, 1, 3), 1000);
         order(x, 0, 1, 1, 2, 3, 0);
-        vote(x, 3, 0);
+        Desks.vote(x, 3, 0);
         due("an empty ballot moves nothing", x.worth(0, 1, 2), 1001);
     }
 
     /** First 0: 2, 1: 2, 2: 1, 3: 2 ballots; 2 goes out, its ballot to 3; then 1 (last of 0, 1), to 0 and 3. */
     private static void rounds() {
         CHECK.in("promise 18, rounds");
-        PrizeDesk x = deskWithMarked(4);
-        vote(x, 0, 0, 0, 1);
-        vote(x, 1, 0, 0);
-        vote(x, 2, 0, 1, 2, 0);
-        vote(x, 3, 0, 1, 3);
-        vote(x, 4, 0, 2, 3);
-        vote(x, 5, 0, 3);
-        vote(x, 6, 0, 3, 2);
+        PrizeDesk x = Desks.withMarked(4);
+        Desks.vote(x, 0, 0, 0, 1);
+        Desks.vote(x, 1, 0, 0);
+        Desks.vote(x, 2, 0, 1, 2, 0);
+        Desks.vote(x, 3, 0, 1, 3);
+        Desks.vote(x, 4, 0, 2, 3);
+        Desks.vote(x, 5, 0, 3);
+        Desks.vote(x, 6, 0, 3, 2);
         order(x, 0, 2, 3, 0, 1, 2);
         due("2 in round 1", x.worth(0, 2, 2), 1);
         due("1 in round 2", x.worth(0, 2, 1), 2);
         due("0 in round 3", x.worth(0, 2, 0), 3);
         due("3 is left", x.worth(0, 2, 3), 4);
-        vote(x, 6, 0, 0);
+        Desks.vote(x, 6, 0, 0);
         due("now 3 of 2, 3 goes out", x.worth(0, 2, 3), 1);
-        PrizeDesk y = deskWithMarked(1);
+        PrizeDesk y = Desks.withMarked(1);
         due("one alone is left", y.worth(0, 2, 0), 1);
         order(y, 0, 2, 0);
-        order(deskWithMarked(3), 0, 2, 0, 1, 2);
+        order(Desks.withMarked(3), 0, 2, 0, 1, 2);
     }
 
     private static void tiesByChair() {
         CHECK.in("promise 18, ties");
-        PrizeDesk x = deskWithMarked(4);
-        vote(x, 0, 0, 3, 1);
-        vote(x, 1, 0, 1, 3);
-        vote(x, 2, 0, 2, 0);
-        vote(x, 3, 0, 0, 2);
+        PrizeDesk x = Desks.withMarked(4);
+        Desks.vote(x, 0, 0, 3, 1);
+        Desks.vote(x, 1, 0, 1, 3);
+        Desks.vote(x, 2, 0, 2, 0);
+        Desks.vote(x, 3, 0, 0, 2);
         order(x, 0, 0, 0, 1, 2, 3);
         order(x, 0, 1, 0, 1, 2, 3);
         order(x, 0, 2, 0, 1, 2, 3);
-        tell(x, "c1");
+        Desks.tell(x, "c1");
         order(x, 0, 0, 3, 1, 0, 2);
         order(x, 0, 1, 3, 1, 0, 2);
         order(x, 0, 2, 3, 0, 1, 2);
@@ -771,53 +722,53 @@ public final class PromiseTest {
         x.close(0, 10);
         x.kin(0, 3);
         due("1 is first on the chair's now", x.counted(0, 0, 0), 1);
-        due("the chair's other ballot does not tell", vote(x, 0, 1, 2), true);
+        due("the chair's other ballot does not tell", Desks.vote(x, 0, 1, 2), true);
         due("still", x.counted(0, 0, 0), 1);
-        vote(x, 0, 0, 2);
-        vote(x, 1, 0, 3);
+        Desks.vote(x, 0, 0, 2);
+        Desks.vote(x, 1, 0, 3);
         due("2 on the chair's is ahead of 0", x.counted(0, 0, 0), 2);
         due("then 0", x.counted(0, 0, 1), 0);
     }
 
     private static void shortlistAndWinner() {
         CHECK.in("the shortlist and the winner");
-        PrizeDesk x = deskWithMarked(5);
-        vote(x, 0, 0, 4, 3);
-        vote(x, 1, 0, 4, 2);
-        vote(x, 2, 0, 3, 2);
-        vote(x, 3, 0, 1);
+        PrizeDesk x = Desks.withMarked(5);
+        Desks.vote(x, 0, 0, 4, 3);
+        Desks.vote(x, 1, 0, 4, 2);
+        Desks.vote(x, 2, 0, 3, 2);
+        Desks.vote(x, 3, 0, 1);
         due("points: 4 10, 3 9, 2 8, 1 5", x.told(0, 0, 1, 0), 4);
         due("second", x.told(0, 0, 1, 1), 3);
         due("third", x.told(0, 0, 1, 2), 2);
         due("three", x.count(4), 3);
         due("winner without ballots", x.told(0, 0, 2, 0), 2);
         due("stage 1 is of the shortlist", x.worth(1, 0, 1), NONE);
-        vote(x, 5, 1, 1, 3, 2);
+        Desks.vote(x, 5, 1, 1, 3, 2);
         due("1 is passed over: 3 has 3", x.worth(1, 0, 3), 3);
         due("2 has 2", x.worth(1, 0, 2), 2);
         due("winner", x.told(0, 0, 2, 0), 3);
         order(x, 1, 0, 3, 2, 4);
         due("five still in stage 0", x.counted(0, 0, 4), 0);
-        tell(x, "v2;s2");
+        Desks.tell(x, "v2;s2");
         due("rounds: 0 out, 2 out, then 3 of 1, 3", x.told(0, 0, 1, 0), 4);
         due("1 is second", x.told(0, 0, 1, 1), 1);
         due("no third", x.told(0, 0, 1, 2), NONE);
         due("two", x.count(4), 2);
         due("the ballot goes to 1", x.told(0, 0, 2, 0), 1);
-        tell(x, "v1;s1");
+        Desks.tell(x, "v1;s1");
         due("pairs: 4 beats all", x.told(0, 0, 1, 0), 4);
         due("one alone", x.told(0, 0, 2, 0), 4);
-        tell(x, "s12");
+        Desks.tell(x, "s12");
         due("no more than the longlist", x.count(4), 5);
-        tell(x, "l2;s12");
+        Desks.tell(x, "l2;s12");
         due("that has two now", x.count(4), 2);
     }
 
     private static void worth() {
         CHECK.in("promise 19");
-        PrizeDesk x = deskWithMarked(3);
+        PrizeDesk x = Desks.withMarked(3);
         x.book(5, 100, 1);
-        vote(x, 0, 0, 1);
+        Desks.vote(x, 0, 0, 1);
         due("points", x.worth(0, 0, 1), 3);
         due("score", x.worth(0, 1, 1), 1002);
         due("round", x.worth(0, 2, 1), 3);
@@ -836,17 +787,17 @@ public final class PromiseTest {
 
     private static void paradox() {
         CHECK.in("promise 20");
-        PrizeDesk x = deskWithMarked(6);
+        PrizeDesk x = Desks.withMarked(6);
         due("none", x.paradox(0, 0), NONE);
-        vote(x, 0, 0, 5, 3, 4);
-        vote(x, 1, 0, 3, 4, 5);
-        vote(x, 2, 0, 4, 5, 3);
+        Desks.vote(x, 0, 0, 5, 3, 4);
+        Desks.vote(x, 1, 0, 3, 4, 5);
+        Desks.vote(x, 2, 0, 4, 5, 3);
         due("3 beats 4", x.paradox(0, 0), 3);
         due("4 beats 5", x.paradox(0, 1), 4);
         due("5 beats 3", x.paradox(0, 2), 5);
-        vote(x, 0, 0, 4, 3, 5);
-        vote(x, 1, 0, 5, 4, 3);
-        vote(x, 2, 0, 3, 5, 4);
+        Desks.vote(x, 0, 0, 4, 3, 5);
+        Desks.vote(x, 1, 0, 5, 4, 3);
+        Desks.vote(x, 2, 0, 3, 5, 4);
         due("3 beats 5", x.paradox(0, 1), 5);
         due("5 beats 4", x.paradox(0, 2), 4);
         due("what 3", x.paradox(0, 3), NONE);
@@ -854,11 +805,11 @@ public final class PromiseTest {
         due("stage 2", x.paradox(2, 0), NONE);
         due("stage -1", x.paradox(-1, 0), NONE);
         due("stage 1 has no ballots", x.paradox(1, 0), NONE);
-        vote(x, 0, 1, 3, 4, 5);
-        vote(x, 1, 1, 4, 5, 3);
-        vote(x, 2, 1, 5, 3, 4);
+        Desks.vote(x, 0, 1, 3, 4, 5);
+        Desks.vote(x, 1, 1, 4, 5, 3);
+        Desks.vote(x, 2, 1, 5, 3, 4);
         due("stage 1", x.paradox(1, 1), 4);
-        tell(x, "v2");
+        Desks.tell(x, "v2");
         due("rounds leave 3, 4 and 0, 1 or 2 out", x.paradox(1, 0), 3);
         x.withdraw(4);
         due("broken", x.paradox(0, 0), NONE);
@@ -890,26 +841,26 @@ public final class PromiseTest {
         }
         due("book -1", x.look(-1, 0), NONE);
         due("book 2", x.look(2, 0), NONE);
-        tell(x, "p78");
+        Desks.tell(x, "p78");
         due("too thin", x.look(0, 0), 0);
-        tell(x, "q76");
+        Desks.tell(x, "q76");
         due("too thick", x.look(0, 0), 0);
-        tell(x, "f89");
+        Desks.tell(x, "f89");
         due("too early", x.look(0, 0), 0);
-        tell(x, "t87");
+        Desks.tell(x, "t87");
         due("too late", x.look(0, 0), 0);
-        tell(x, "p77;q77;f88;t88;b1");
+        Desks.tell(x, "p77;q77;f88;t88;b1");
         due("just so", x.look(0, 0), 1);
     }
 
     private static void count() {
         CHECK.in("promise 22");
-        PrizeDesk x = deskWithMarked(8);
+        PrizeDesk x = Desks.withMarked(8);
         x.book(0, 10, 1);
         x.mark(0, 0, 90);
-        vote(x, 0, 0, 1);
-        vote(x, 1, 0, 1);
-        vote(x, 1, 1, 1);
+        Desks.vote(x, 0, 0, 1);
+        Desks.vote(x, 1, 0, 1);
+        Desks.vote(x, 1, 1, 1);
         x.feed(0, 0, 0, 0, 0);
         due("books", x.count(0), 9);
         due("in", x.count(1), 8);
