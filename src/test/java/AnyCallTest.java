@@ -2,8 +2,8 @@ import java.lang.management.ManagementFactory;
 import java.util.Random;
 
 /**
- * Any arguments in any state: no call throws, each ends, the same calls have the same answers, what was refused
- * changed nothing that can be asked, and no call makes objects.
+ * Any arguments in any state: no call throws, each ends, the same calls have the same answers, and no call makes
+ * objects.
  */
 public final class AnyCallTest {
     private static final int[] EDGES = {
@@ -28,7 +28,6 @@ public final class AnyCallTest {
                 check.due("kind " + a[0] + " of call " + i, answer(one, a), answer(other, a));
             }
         }
-        refusedCalls(check);
         thrift(check);
         check.end();
     }
@@ -139,32 +138,6 @@ public final class AnyCallTest {
             x.ballot(j, 1, 100 + j, 5 + j);
         }
         return x;
-    }
-
-    private static void refusedCalls(Check check) {
-        check.in("refused");
-        PrizeDesk x = fullDesk();
-        x.feed(0x6C31323B, 0x7331323B, 0x72330000, 0, 0);
-        x.rules(10);
-        x.call(5);
-        x.withdraw(6);
-        x.kin(0, 3);
-        x.friend(1, 2);
-        x.feed(1, 2, 3, 4, 5);
-        long before = picture(x);
-        boolean[] answers = {
-            x.call(5), x.call(24), x.withdraw(6), x.withdraw(-1), x.kin(0, 3), x.kin(7, 0), x.kin(0, 24),
-            x.friend(1, 2), x.friend(0, 8), x.friend(7, 0), x.mark(0, 3, 50), x.mark(0, 0, 101), x.mark(7, 0, 1),
-            x.mark(0, 24, 1), x.ballot(7, 0, 0, 0), x.ballot(0, 2, 0, 0), x.ballot(0, 0, 401, 0),
-            x.ballot(0, 0, 0, 13), x.ballot(0, 0, 0, -1), x.close(2, 0), x.close(0, 401), x.telling(3, 0),
-            x.telling(0, -1)
-        };
-        for (int i = 0; i < answers.length; i++) {
-            check.due("answer " + i, answers[i], false);
-        }
-        check.due("rules", x.rules(81), -1);
-        check.due("book", x.book(0, 100, 1), -1);
-        check.due("the same is told", picture(x), before);
     }
 
     /** The room of a run is counted: whatever is asked, the rows of the object are used again. */

@@ -1,15 +1,20 @@
 /** Counts the answers that are not as due; a helper of the tests. */
 final class Check {
+    /** A wrong answer brings others with it: of each place only the first ones are printed. */
+    private static final int PRINTED = 5;
+
     private int wrong = 0;
+    private int wrongHere = 0;
     private String where = "";
 
     void in(String place) {
         where = place;
+        wrongHere = 0;
     }
 
     /** What follows tests this sentence of the document, or this part of one; it must stand there just so, once. */
     void sentence(String quote) {
-        where = quote;
+        in(quote);
         int at = Document.text().indexOf(quote);
         if (at < 0 || at != Document.text().lastIndexOf(quote)) {
             fail("the document does not say so, or more than once");
@@ -19,7 +24,8 @@ final class Check {
     void due(String call, long got, long want) {
         if (got != want) {
             wrong++;
-            if (wrong <= 50) {
+            wrongHere++;
+            if (wrongHere <= PRINTED) {
                 System.out.println(where + ": " + call + " answered " + got + ", due is " + want);
             }
         }

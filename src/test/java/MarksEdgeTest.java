@@ -264,6 +264,12 @@ public final class MarksEdgeTest {
         Desks.tell(x, "d0");
         x.mark(2, 0, 69);
         due("alike", x.count(2), 0);
+        for (int n = 0; n <= 100; n += 50) {
+            x.mark(2, 0, n);
+            x.mark(6, 0, n);
+            due("both " + n, x.count(2), 0);
+        }
+        x.mark(6, 0, 69);
         x.mark(2, 0, 68);
         due("1 apart, d0", x.count(2), 1);
         x.mark(2, 0, 0);

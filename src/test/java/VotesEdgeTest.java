@@ -97,6 +97,7 @@ public final class VotesEdgeTest {
         CHECK.sentence("its n BOOKS are the first n bytes of the tape, as numbers (the tape is empty then): true;");
         for (int n = 0; n <= 12; n++) {
             PrizeDesk x = wide(12);
+            Desks.vote(x, 4, 0, 11, 10);
             Desks.put(x, TWELVE);
             Desks.put(x, TWELVE);
             due("ballot of " + n, x.ballot(4, 0, 10, n), true);
@@ -426,6 +427,11 @@ public final class VotesEdgeTest {
             for (int kind = 0; kind < 2; kind++) {
                 order(x, stage, kind, 3, 1, 0, 2);
             }
+            Desks.vote(x, 0, stage, 0, 3, 2, 1);
+            Desks.vote(x, 1, stage, 1, 2, 3, 0);
+            order(x, stage, 0, 0, 3, 2, 1);
+            order(x, stage, 1, 0, 3, 2, 1);
+            order(x, stage, 2, 0, 1, 3, 2);
             Desks.vote(x, 0, stage, 3);
             Desks.vote(x, 1, stage, 2);
             order(x, stage, 0, 3, 2, 0, 1);
@@ -464,10 +470,12 @@ public final class VotesEdgeTest {
         Desks.vote(x, 0, 0, 1);
         order(x, 0, 0, 2, 3, 1, 0);
         Desks.tell(x, "c0");
-        Desks.vote(x, 0, 0);
-        Desks.vote(x, 1, 0, 3, 1);
-        Desks.vote(x, 2, 0, 1, 3);
+        Desks.vote(x, 0, 0, 3, 1);
+        Desks.vote(x, 1, 0, 1, 3);
+        Desks.vote(x, 2, 0);
         order(x, 0, 0, 1, 3, 0, 2);
+        order(x, 0, 1, 1, 3, 0, 2);
+        order(x, 0, 2, 1, 3, 0, 2);
     }
 
     private static void points() {
@@ -590,6 +598,14 @@ public final class VotesEdgeTest {
         Desks.vote(two, 2, 0, 3, 2, 1, 0);
         Desks.vote(two, 3, 0, 2, 1, 3, 0);
         paradox(two, 0, 1, 3, 2);
+        Desks.vote(two, 1, 0, 0, 1, 3, 2);
+        Desks.vote(two, 2, 0, 1, 3, 2, 0);
+        Desks.vote(two, 3, 0, 3, 2, 0, 1);
+        paradox(two, 0, 0, 1, 2);
+        Desks.vote(two, 1, 0, 0, 2, 1, 3);
+        Desks.vote(two, 2, 0, 2, 1, 3, 0);
+        Desks.vote(two, 3, 0, 3, 0, 2, 1);
+        paradox(two, 0, 0, 1, 3);
     }
 
     private static void roundsShare() {
@@ -816,8 +832,11 @@ public final class VotesEdgeTest {
         paradox(wide(3), 0, NONE, NONE, NONE);
         PrizeDesk x = wide(3);
         ring(x, 0, 0, 1, 2);
+        ring(x, 1, 0, 2, 1);
+        paradox(x, 1, 0, 2, 1);
         for (int what : Desks.outside(0, 2)) {
             due("what " + what, x.paradox(0, what), NONE);
+            due("what " + what, x.paradox(1, what), NONE);
         }
         for (int stage : Desks.outside(0, 1)) {
             due("stage " + stage, x.paradox(stage, 0), NONE);
